@@ -182,6 +182,7 @@ public final class MindTest {
         CHECK.due("a pal of another", none.why(0, 5), 1);
         CHECK.due("a pal of his", Check.told("kr000;kp110;kw170;t0;").why(0, 1), 3);
         CHECK.due("a waiter beside him", Check.told("kw000;kr010;kf230;kw220;t1;t2;").why(1, 20), 2);
+        CHECK.due("a freer himself", Check.told("kf000;kc230;t0;").why(0, 1), 3);
         CHECK.due("by law 3 he runs", Check.told("kr000;kc230;t0;l3;").why(0, 1), 0);
     }
 

@@ -57,6 +57,12 @@ public final class SecondTest {
         x.seconds(1);
         CHECK.due("touched as he rests", x.child(0, 3), 1);
         CHECK.due("catchers never tire", x.child(1, 4), 0);
+        TouchedAndStands caught = Check.told("kr000;kc000;");
+        caught.seconds(1);
+        CHECK.due("touched behind his step", caught.child(0, 3), 1);
+        CHECK.due("that step tired him", caught.child(0, 4), 1);
+        caught.seconds(1);
+        CHECK.due("who stands rests", caught.child(0, 4), 0);
     }
 
     private static void runnerAwayFromAll() {
