@@ -894,9 +894,10 @@ public final class TouchedAndStands {
             return whom == NOBODY ? NONE : whom;
         }
 
+        /** Whether another may free him by his kind: to free is to free another, so he himself is none. */
         boolean hasFreerFor(int child) {
             for (int one = 0; one < children; one++) {
-                if ((freeableBits(one) >> child & 1) == 1) {
+                if (one != child && (freeableBits(one) >> child & 1) == 1) {
                     return true;
                 }
             }

@@ -182,7 +182,11 @@ public final class MindTest {
         CHECK.due("a pal of another", none.why(0, 5), 1);
         CHECK.due("a pal of his", Check.told("kr000;kp110;kw170;t0;").why(0, 1), 3);
         CHECK.due("a waiter beside him", Check.told("kw000;kr010;kf230;kw220;t1;t2;").why(1, 20), 2);
-        CHECK.due("a freer himself", Check.told("kf000;kc230;t0;").why(0, 1), 3);
+        CHECK.due("a freer himself", Check.told("kf000;kc230;t0;").why(0, 1), 1);
+        CHECK.due("a freer himself, watched", Check.told("kf000;kw010;t0;").why(0, 1), 1);
+        CHECK.due("a pal of himself", Check.told("kp000;kc230;t0;").why(0, 1), 1);
+        CHECK.due("another freer who stands", Check.told("kf000;kf120;kc230;t0;t1;").why(0, 1), 3);
+        CHECK.due("a freer himself by law 3", Check.told("kf000;kc230;t0;l3;").why(0, 1), 0);
         CHECK.due("by law 3 he runs", Check.told("kr000;kc230;t0;l3;").why(0, 1), 0);
     }
 

@@ -524,7 +524,7 @@ final class Model {
         if (IntStream.rangeClosed(1, n).anyMatch(s -> !now.after(s).kids.get(child).stands)) {
             return 0;
         }
-        if (now.kids.stream().noneMatch(k -> k.may(child))) {
+        if (IntStream.range(0, now.kids.size()).noneMatch(i -> i != child && now.kids.get(i).may(child))) {
             return 1;
         }
         // Freed, gone and touched again within a second, he may stand elsewhere than now.
