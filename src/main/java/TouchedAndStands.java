@@ -979,7 +979,7 @@ public final class TouchedAndStands {
         private void setFree(int one, int whom) {
             for (int other = 0; other < children; other++) {
                 boolean isFreed = law == FREES_ALL_BESIDE ? apart(cells[one], cells[other]) <= 1 : other == whom;
-                if (isFreed && isStanding(other)) {
+                if (isFreed && (standing >> other & 1) == 1) {
                     letRun(other);
                     freeings++;
                     int pair = CHILDREN * one + other;

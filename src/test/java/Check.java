@@ -20,6 +20,14 @@ final class Check {
         due(what, isSo ? 1 : 0, 1);
     }
 
+    void same(String what, String got, String want) {
+        looked++;
+        if (!got.equals(want)) {
+            wrong++;
+            System.out.println(name + ": " + what + ":\n  got  " + got + "\n  due  " + want);
+        }
+    }
+
     int wrongOnes() {
         return wrong;
     }

@@ -5,8 +5,12 @@ import java.lang.reflect.Method;
 import java.lang.reflect.Modifier;
 import java.nio.file.Files;
 import java.nio.file.Path;
+import java.util.ArrayList;
 import java.util.Arrays;
+import java.util.List;
+import java.util.Map;
 import java.util.Set;
+import java.util.TreeMap;
 import java.util.TreeSet;
 import java.util.regex.Matcher;
 import java.util.regex.Pattern;
@@ -27,7 +31,12 @@ public final class FaceTest {
     public static void main(String[] args) throws IOException {
         face();
         members();
-        text();
+        String source = Files.readString(Path.of(System.getProperty("source", "src/main/java/TouchedAndStands.java")));
+        String code = source.replaceAll("(?s)/\\*.*?\\*/", "").replaceAll("//[^\n]*", "");
+        words(source, code);
+        library(code);
+        shortMethods(code.split("\n"));
+        callsAreNotDeep(code.split("\n"));
         CHECK.end();
     }
 
@@ -85,26 +94,89 @@ public final class FaceTest {
         }
     }
 
-    private static void text() throws IOException {
-        String source = Files.readString(Path.of(System.getProperty("source", "src/main/java/TouchedAndStands.java")));
-        String code = source.replaceAll("(?s)/\\*.*?\\*/", "").replaceAll("//[^\n]*", "");
+    private static void words(String source, String code) {
         for (String word : FORBIDDEN) {
             String whole = Character.isLetter(word.charAt(0)) ? "\\b" + word + "\\b" : word;
             Matcher m = Pattern.compile(whole).matcher(code);
             CHECK.holds("no " + word, !m.find());
         }
         CHECK.holds("signs 1 to 127", source.chars().allMatch(c -> c > 0 && c < 128));
-        int since = 0;
-        int longest = 0;
-        String[] lines = source.split("\n");
-        for (int i = 0; i < lines.length; i++) {
-            if (lines[i].matches(" {4}( {4})?(public|private|static|boolean|int|void|long)\\b.*\\) \\{")) {
-                since = i;
-            } else if (lines[i].matches(" {4}( {4})?\\}")) {
-                longest = Math.max(longest, i - since + 1);
-                since = i;
+        for (String line : code.split("\n")) {
+            if (line.matches(".*\\bnew\\b.*")) {
+                CHECK.holds("objects are made in fields alone: " + line, line.matches(" +private final .* = new .*;"));
             }
         }
-        CHECK.holds("methods stay short: " + longest, longest <= 60);
+    }
+
+    /** Rule 4: of the library just what is listed here; all other calls are of methods of the file. */
+    private static void library(String code) {
+        Set<String> listed = Set.of("Math.max", "Math.min", "Integer.bitCount", "System.arraycopy");
+        Matcher statics = Pattern.compile("\\b(Math|Integer|Long|System|Arrays|Character|String)\\.(\\w+)").matcher(code);
+        while (statics.find()) {
+            CHECK.holds("the library's " + statics.group(), listed.contains(statics.group()));
+        }
+        Set<String> own = new TreeSet<>(Set.of("length", "charAt", "indexOf", "max", "min", "bitCount", "arraycopy"));
+        Matcher declared = Pattern.compile("(?m)^ +(?:public |private |static )*(?:int|long|boolean|void|String) (\\w+)\\(")
+            .matcher(code);
+        while (declared.find()) {
+            own.add(declared.group(1));
+        }
+        Matcher called = Pattern.compile("\\.(\\w+)\\(").matcher(code);
+        while (called.find()) {
+            CHECK.holds("a call of " + called.group(1), own.contains(called.group(1)));
+        }
+    }
+
+    /** The lines of each method by its name, from head to closing brace. */
+    private static Map<String, List<String>> methods(String[] lines) {
+        Map<String, List<String>> all = new TreeMap<>();
+        Pattern head = Pattern.compile("^( +)(?:public |private |static )*(?:int|long|boolean|void|String) (\\w+)\\(.*\\{$");
+        for (int i = 0; i < lines.length; i++) {
+            Matcher m = head.matcher(lines[i]);
+            if (m.matches()) {
+                List<String> body = new ArrayList<>();
+                int end = i + 1;
+                while (!lines[end].equals(m.group(1) + "}")) {
+                    body.add(lines[end]);
+                    end++;
+                }
+                CHECK.holds("one method named " + m.group(2), all.put(m.group(2), body) == null);
+                i = end;
+            }
+        }
+        return all;
+    }
+
+    private static void shortMethods(String[] lines) {
+        Map<String, List<String>> all = methods(lines);
+        CHECK.holds("methods were found: " + all.size(), all.size() > 80);
+        for (Map.Entry<String, List<String>> m : all.entrySet()) {
+            CHECK.holds(m.getKey() + " is short", m.getValue().size() <= 58);
+        }
+    }
+
+    /** Rules 8 and 11: no recursion, and calls at most eight deep. */
+    private static void callsAreNotDeep(String[] lines) {
+        Map<String, List<String>> all = methods(lines);
+        for (String name : all.keySet()) {
+            int deep = deep(name, all, 0);
+            CHECK.holds(name + " goes " + deep + " deep", deep <= 8);
+        }
+    }
+
+    private static int deep(String name, Map<String, List<String>> all, int above) {
+        if (above > 20) {
+            return 100;
+        }
+        int most = 0;
+        for (String line : all.get(name)) {
+            Matcher called = Pattern.compile("\\b(\\w+)\\(").matcher(line);
+            while (called.find()) {
+                if (all.containsKey(called.group(1))) {
+                    most = Math.max(most, deep(called.group(1), all, above + 1));
+                }
+            }
+        }
+        return most + 1;
     }
 }
