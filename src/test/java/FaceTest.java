@@ -57,8 +57,8 @@ public final class FaceTest {
         Set<String> due = new TreeSet<>(Arrays.asList(FACE));
         Set<String> is = new TreeSet<>();
         for (Method m : c.getDeclaredMethods()) {
-            if (Modifier.isPublic(m.getModifiers()) && !Modifier.isStatic(m.getModifiers())) {
-                is.add(signature(m));
+            if (Modifier.isPublic(m.getModifiers())) {
+                is.add((Modifier.isStatic(m.getModifiers()) ? "static " : "") + signature(m));
             }
         }
         CHECK.holds("the face is " + is, is.equals(due));
@@ -76,6 +76,8 @@ public final class FaceTest {
         }
         for (Field f : TouchedAndStands.class.getDeclaredFields()) {
             CHECK.holds(f + " is private", Modifier.isPrivate(f.getModifiers()));
+            CHECK.holds(f + ": a static one is final", !Modifier.isStatic(f.getModifiers())
+                || Modifier.isFinal(f.getModifiers()));
         }
         for (Class<?> inside : TouchedAndStands.class.getDeclaredClasses()) {
             CHECK.holds(inside + " is static", Modifier.isStatic(inside.getModifiers()));
